@@ -184,6 +184,15 @@ public final class ForesightTest {
         Due.is("P29 both", x.wrongs(0, 4, 10, 0, -1), 2);
         Due.is("P29 0 first", x.wrongs(0, 4, 10, 0, 2), 0);
         Due.is("P29 2 then", x.wrongs(0, 4, 10, 0, 3), 2);
+        // The sooner the lesson, the longer it fades.
+        UnlearnedHand z = made();
+        Due.text(z, "fades wrong; has right>0;");
+        z.by(0);
+        z.teach(0, 1, 60);
+        Due.is("P29 one lesson", z.wrongs(0, 3, 20, 0, -1), 1);
+        Due.is("P29 in the first night", z.wrongs(0, 3, 20, 0, 0), 1);
+        Due.is("P29 none behind", z.wrongs(0, 3, 20, 0, 1), 8);
+        Due.is("P29 none behind", z.wrongs(0, 3, 20, 0, 2), 8);
         // Trials aside: the night of day 30 is among these.
         UnlearnedHand y = made();
         y.teach(0, 0, 99);

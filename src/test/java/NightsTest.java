@@ -7,6 +7,8 @@ public final class NightsTest {
         lastDay();
         winters();
         wintersAllDraws();
+        wintersOfOne();
+        untold();
         undo();
         undoBehindTelling();
         Due.end();
@@ -180,6 +182,58 @@ public final class NightsTest {
             Due.is("P15 not taught where it is tied", x.hand(0, 0, 2), 0);
             x.again();
         }
+    }
+
+    /** One man and one turn by the laws without a text, each deed by hand. */
+    private static void wintersOfOne() {
+        UnlearnedHand x = new UnlearnedHand();
+        x.turn(1);
+        x.man(0);
+        for (int seed = 0; seed < 60; seed++) {
+            x.image();
+            x.winters(seed, 12);
+            int[] state = {seed * 2 + 73};
+            int right = 0;
+            int wrong = 0;
+            int best = 0;
+            int sung = 0;
+            for (int i = 0; i < 12; i++) {
+                int what = draw(state, 6);
+                for (int d = what < 3 ? 2 : what < 4 ? 1 : 0; d > 0; d--) {
+                    draw(state, 1);
+                }
+                int k = what < 2 ? 1 + draw(state, 40) : 0;
+                if (what == 0) {
+                    right = Math.min(99, right + k);
+                    best = Math.max(best, right);
+                } else if (what == 1) {
+                    wrong = Math.min(99, wrong + k);
+                    right = sung == 1 ? right : Math.max(0, right - k / 2);
+                } else if (what == 2) {
+                    sung = 1 - sung;
+                } else if (sung == 0) {
+                    right = Math.max(0, right - (what == 3 ? 3 : 1));
+                }
+            }
+            Due.is("P15 right by seed " + seed, x.hand(0, 0, 0), right);
+            Due.is("P15 wrong by seed " + seed, x.hand(0, 0, 1), wrong);
+            Due.is("P15 best by seed " + seed, x.hand(0, 0, 2), best);
+            Due.is("P15 sung by seed " + seed, x.of(0, 2), sung);
+            x.again();
+        }
+    }
+
+    private static void untold() {
+        UnlearnedHand x = made();
+        Due.text(x, "fades 0-9;");
+        x.by(0);
+        x.night(5);
+        x.winters(2, 9);
+        x.foretold(60, 1);
+        x.turn(1);
+        x.man(1);
+        Due.is("a turn told since has nothing", x.hand(0, 2, 0) + x.hand(0, 2, 2) + x.hand(0, 2, 1), 0);
+        Due.is("a man told since has nothing", x.hand(2, 0, 0) + x.hand(2, 0, 2) + x.hand(2, 0, 1), 0);
     }
 
     private static int draw(int[] state, int among) {

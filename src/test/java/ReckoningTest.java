@@ -44,6 +44,10 @@ public final class ReckoningTest {
         Due.is("P30 none any more, again", x.done(-1, true), 0);
         Due.is("P30 one", x.done(0, true), 1);
         Due.is("P30 not as it was", x.sets(false, -1), 2);
+        x.done(-1, true);
+        x.done(0, false);
+        Due.is("P30 wrong, where one was right", x.sets(false, -1), 2);
+        Due.is("P30 without it", x.sets(false, 1), 2);
     }
 
     private static void sets() {
@@ -76,6 +80,10 @@ public final class ReckoningTest {
         Due.is("P31 right and wrong", x.sets(false, -1), 0);
         Due.is("P31 none such", x.sets(false, 0), -1);
         Due.is("P31 a shammer's", x.sets(true, -1), 4);
+        UnlearnedHand y = made(2, 0);
+        y.leads(1, 0);
+        Due.is("P31 the first is led to", y.sets(false, -1), 3);
+        Due.is("P31 not by itself", y.sets(false, 1), 2);
     }
 
     private static void shammed() {
@@ -102,6 +110,7 @@ public final class ReckoningTest {
         Due.is("P32 p 10", x.shammed(0, 10, 5, true), 1);
         Due.is("P32 p 0", x.shammed(0, 0, 5, false), 0);
         Due.is("P32 p 0", x.shammed(0, 0, 5, true), 1);
+        Due.is("P32 q 10", x.shammed(1, 4, 10, true), 5);
         Due.is("P32 p -1", x.shammed(0, -1, 5, true), -1);
         Due.is("P32 p 11", x.shammed(0, 11, 5, false), -1);
         Due.is("P32 q -1", x.shammed(0, 1, -1, false), -1);
@@ -195,6 +204,12 @@ public final class ReckoningTest {
         Due.is("P38 spies(-1)", x.spies(-1), -1);
         has(x, 0, 4 + 8 + 16);
         Due.is("P38 fewer ahead of more worth", x.spies(15), 1);
+        UnlearnedHand y = made(3, 2);
+        has(y, 0, 1 + 4);
+        has(y, 1, 1 + 2);
+        Due.is("P38 the worth of all that each has", y.spies(1), 1);
+        has(y, 1, 4);
+        Due.is("P38 the worth of all that each has", y.spies(1), 2);
         UnlearnedHand nobody = new UnlearnedHand();
         Due.is("P38 nobody", nobody.spies(0), 0);
         nobody.turn(1);

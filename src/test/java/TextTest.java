@@ -57,6 +57,8 @@ public final class TextTest {
         Due.is("P18 the tape is empty then too", x.about(10), 0);
         Due.is("P19 fault", x.fault(0), 1);
         Due.is("P19 at the length", x.fault(1), 5);
+        Due.is("P19 what 2, behind a fault", x.fault(2), -1);
+        Due.is("P19 what -1, behind a fault", x.fault(-1), -1);
         Due.is("P42 texts", x.about(5), 2);
         Due.is("P18 the next", Due.text(x, "drops 2;"), 2);
         Due.is("P18 the last", Due.text(x, "\n \n"), 3);
@@ -95,6 +97,12 @@ public final class TextTest {
         Due.fault("fades rights;", 1, 6);
         Due.fault("fades righ;", 1, 6);
         Due.fault("fades r;", 1, 6);
+        Due.fault("fadesa 1;", 1, 0);
+        Due.fault("fadesz 1;", 1, 0);
+        Due.fault("fadesA 1;", 1, 0);
+        Due.fault("fadesZ 1;", 1, 0);
+        Due.fault("fades@ 1;", 1, 5);
+        Due.fault("fades{ 1;", 1, 5);
         Due.fault("   ?", 1, 3);
     }
 
@@ -130,6 +138,9 @@ public final class TextTest {
         Due.fault("sing 0 at 0;", 1, 7);
         Due.fault("drink 0 0;", 1, 8);
         Due.fault("drink -1;", 1, 6);
+        Due.fault("drink ;", 1, 6);
+        Due.fault("teach 0 in by 1;", 1, 11);
+        Due.fault("sing of 0;", 1, 5);
         Due.fault("night (1);", 1, 6);
         Due.fault("try", 1, 3);
     }
