@@ -1437,12 +1437,11 @@ public final class UnlearnedHand {
             }
         }
 
+        /** What a night does to one turn: both laws see all as it is ahead of that. */
         void fade(Hands hands, int man, int turn) {
-            if (!hands.isSung(man, turn)) {
-                int less = laws.valueOf(FADES, hands, man, turn, 0);
-                hands.setRight(man, turn, hands.rightOf(man, turn) - less);
-            }
+            int less = hands.isSung(man, turn) ? 0 : laws.valueOf(FADES, hands, man, turn, 0);
             int drop = laws.valueOf(DROPS, hands, man, turn, 0);
+            hands.setRight(man, turn, hands.rightOf(man, turn) - less);
             hands.setWrong(man, turn, hands.wrongOf(man, turn) - drop);
         }
 

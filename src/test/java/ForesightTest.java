@@ -5,6 +5,7 @@ public final class ForesightTest {
         free();
         lasts();
         beyondTheLastDay();
+        dropsByTheRightAhead();
         wrongs();
         wrongsInOrder();
         wrongsOfOthers();
@@ -128,6 +129,22 @@ public final class ForesightTest {
         x.by(0);
         Due.is("P26 the day grows on", x.foretold(11, 0), 1);
         Due.is("P26 the day grows on", x.foretold(12, 0), 0);
+    }
+
+    /** Wrongs drop by the right ahead of the night, in days to come as well. */
+    private static void dropsByTheRightAhead() {
+        UnlearnedHand x = made();
+        Due.text(x, "drops right; has wrong>24;");
+        x.by(0);
+        x.night(29);
+        x.mislead(0, 0, 25);
+        x.teach(0, 0, 1);
+        Due.is("P26 has it now", x.of(0, 1), 1);
+        Due.is("P26 not behind the night", x.foretold(1, 0), 0);
+        Due.is("P27 so it is free by the night", x.free(1, 0), 1);
+        Due.is("P28 one night", x.lasts(0, 0), 1);
+        Due.is("P29 no lesson", x.wrongs(0, 1, 1, 0, -1), 0);
+        Due.is("P29 no lesson", x.wrongs(0, 1, 1, 0, 0), 8);
     }
 
     private static void wrongs() {

@@ -182,10 +182,11 @@ final class Model {
     void fadeAll(Held h, int m) {
         Man man = h.men.get(m);
         for (int t = 0; t < w.worth.size(); t++) {
+            int wrong = clamp(man.wrong[t] - drops(h, m, t), 0, 99);
             if (!man.sung[t]) {
                 right(man, t, man.right[t] - fades(h, m, t));
             }
-            man.wrong[t] = clamp(man.wrong[t] - drops(h, m, t), 0, 99);
+            man.wrong[t] = wrong;
         }
     }
 

@@ -3,6 +3,7 @@ public final class NightsTest {
     public static void main(String[] args) {
         night();
         nightLaws();
+        nightLawsAtOnce();
         trials();
         lastDay();
         winters();
@@ -55,11 +56,14 @@ public final class NightsTest {
         Due.is("right ahead", x.hand(0, 0, 0), 0);
         x.night(1);
         Due.is("P14 fades below 0: more", x.hand(0, 0, 0), 4);
-        Due.is("P14 drops by the right that has faded already", x.hand(0, 0, 1), 36);
+        Due.is("P14 drops by the right ahead of the night, 0", x.hand(0, 0, 1), 40);
+        x.night(1);
+        Due.is("P14 more once more", x.hand(0, 0, 0), 8);
+        Due.is("P14 drops by the right ahead of the night, 4", x.hand(0, 0, 1), 36);
         x.sing(0, 0, true);
         x.night(1);
-        Due.is("P14 sung: right stays", x.hand(0, 0, 0), 4);
-        Due.is("P14 sung: wrong drops all the same", x.hand(0, 0, 1), 32);
+        Due.is("P14 sung: right stays", x.hand(0, 0, 0), 8);
+        Due.is("P14 sung: wrong drops all the same", x.hand(0, 0, 1), 28);
         x.sing(0, 0, false);
         x.night(30);
         Due.is("P14 right up to 99", x.hand(0, 0, 0), 99);
@@ -70,6 +74,27 @@ public final class NightsTest {
         y.teach(0, 0, 50);
         y.night(3);
         Due.is("P14 by the day ahead of the night", y.hand(0, 0, 0), 47);
+    }
+
+    /** RIGHT and WRONG of a night, each by the other one ahead of it, wherever a night passes. */
+    private static void nightLawsAtOnce() {
+        UnlearnedHand x = made();
+        Due.text(x, "fades wrong; drops right; night 1;");
+        x.by(0);
+        x.mislead(0, 0, 6);
+        x.teach(0, 0, 8);
+        x.night(1);
+        Due.is("P14 fades by the wrong ahead", x.hand(0, 0, 0), 2);
+        Due.is("P14 drops by the right ahead", x.hand(0, 0, 1), 0);
+        x.undo();
+        // The seed 2 draws 5 first: a night.
+        x.winters(2, 1);
+        Due.is("P15 fades by the wrong ahead", x.hand(0, 0, 0), 2);
+        Due.is("P15 drops by the right ahead", x.hand(0, 0, 1), 0);
+        x.undo();
+        Due.is("P21 a night", x.played(0), -1);
+        Due.is("P21 fades by the wrong ahead", x.hand(0, 0, 0), 2);
+        Due.is("P21 drops by the right ahead", x.hand(0, 0, 1), 0);
     }
 
     private static void trials() {
