@@ -99,11 +99,13 @@ final class Edge {
         for (int what = 0; what <= 10; what++) {
             Due.is(sentence + ": about(" + what + ")", x.about(what), y.about(what));
         }
-        for (int turn = 0; turn < y.about(0); turn++) {
+        int turns = y.about(0);
+        int smells = y.about(2);
+        for (int turn = 0; turn < turns; turn++) {
             Due.is(sentence + ": ofTurn(" + turn + ", 0)", x.ofTurn(turn, 0), y.ofTurn(turn, 0));
             Due.is(sentence + ": ofTurn(" + turn + ", 1)", x.ofTurn(turn, 1), y.ofTurn(turn, 1));
         }
-        for (int smell = 0; smell < y.about(2); smell++) {
+        for (int smell = 0; smell < smells; smell++) {
             Due.is(sentence + ": back(" + (1 << smell) + ")", x.back(1 << smell), y.back(1 << smell));
         }
         for (int i = -1; i < 2; i++) {
@@ -113,12 +115,16 @@ final class Edge {
     }
 
     static void sameMen(String sentence, UnlearnedHand x, UnlearnedHand y) {
-        for (int man = 0; man < y.about(1); man++) {
+        int men = y.about(1);
+        int turns = y.about(0);
+        // An object answers for 512 calls alone, so that of many hands what laws say isn't asked.
+        int most = men * turns > 24 ? 2 : 4;
+        for (int man = 0; man < men; man++) {
             for (int what = 0; what <= 4; what++) {
                 Due.is(sentence + ": of(" + man + ", " + what + ")", x.of(man, what), y.of(man, what));
             }
-            for (int turn = 0; turn < y.about(0); turn++) {
-                for (int what = 0; what <= 4; what++) {
+            for (int turn = 0; turn < turns; turn++) {
+                for (int what = 0; what <= most; what++) {
                     Due.is(sentence + ": hand(" + man + ", " + turn + ", " + what + ")", x.hand(man, turn, what), y.hand(man, turn, what));
                 }
             }

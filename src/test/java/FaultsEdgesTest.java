@@ -64,6 +64,8 @@ public final class FaultsEdgesTest {
             Edge.fault("P19 a letter less: " + law, law.substring(0, law.length() - 1) + rest, 1, 0);
             Edge.fault("P19 a .. z, A .. Z are unlike: " + law, law.substring(0, 1).toUpperCase() + law.substring(1) + rest, 1, 0);
             Edge.fault("P19 one behind the other (one TOKEN): " + law, law + "right" + rest, 1, 0);
+            Edge.fault("P19 a .. z: the first: " + law, law + "a" + rest, 1, 0);
+            Edge.fault("P19 a .. z: the last: " + law, law + "z" + rest, 1, 0);
             Edge.fault("P19 A .. Z too: " + law, law + "A" + rest, 1, 0);
             Edge.fault("P19 A .. Z too: " + law, law + "Z" + rest, 1, 0);
             Edge.fault("P19 the sign ahead of A is no letter: " + law, law + "@" + rest, 1, law.length());

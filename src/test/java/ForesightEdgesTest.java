@@ -321,6 +321,13 @@ public final class ForesightEdgesTest {
     private static void wrongsTrialsAside() {
         Edge.Maker on29 = () -> allowedOn(29);
         plan("TRIALS aside: none is FREE by them, on DAY 30", on29, 99, 0, 1, 8, 8, 1);
+        Edge.Maker fading = () -> {
+            UnlearnedHand x = taughtOn(29, 4);
+            x.allow(8);
+            return x;
+        };
+        plan("TRIALS aside: what fades fades on behind DAY 30", fading, 1, 1, 0, 8, 8, 8, 8);
+        plan("TRIALS aside: what fades fades on behind DAY 30, but one NIGHT too few", fading, 2, 1, 1, 8, 8, 0);
         Edge.Maker on999 = () -> taughtOn(999, 50);
         plan("999 doesn't bound it", on999, 99, 0, 2, 8, 8, 0, 1);
         plan("DAY grows on: not in its last", () -> dayLaw(999), 1, 0, -1, -1, -1, -1, -1);
@@ -331,6 +338,11 @@ public final class ForesightEdgesTest {
     private static void wrongsLaws() {
         plan("a NIGHT behind each lesson: WRONG drops", () -> one("fades 0; pushes 0; drops 5;", 10), 10, 0, 2, 0, 0);
         plan("a NIGHT behind each lesson: WRONG drops, enough is left", () -> one("fades 0; pushes 0; drops 5;", 10), 15, 0, 1, 8, 0);
+        String[] either = {"1<2", "1<=2", "2>1", "2>=1", "1=1", "1#2", "not 1=2", "1=1 or 1=2", "1=1 or 1=1", "1=1 and 1=1", "not not 1=1"};
+        for (String is : either) {
+            plan("b TURNS at most, each counted once: " + is, () -> one("has " + is + ";", 5, 5), 10, 2, 0, 8, 8);
+            plan("b TURNS at most, none goes: " + is, () -> one("has " + is + ";", 5, 5), 10, 1, -1, -1, -1);
+        }
         plan("a NIGHT behind the lesson: RIGHT grows", () -> one("fades -9; pushes 0;", 10), 18, 0, -1, -1);
         plan("a NIGHT behind the lesson: RIGHT grows, and WRONG is like it", () -> one("fades -9; pushes 0;", 10), 19, 0, 1, 0);
     }

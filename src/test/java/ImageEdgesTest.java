@@ -86,6 +86,7 @@ public final class ImageEdgesTest {
         gone("DONE", x -> x.done(2, true));
         gone("DONE none any more", x -> x.done(-1, true));
         gone("DONE otherwise", x -> x.done(-1, true) + x.done(0, false) + x.done(1, true));
+        gone("DONE of other TURNS", x -> x.done(-1, true) + x.done(2, true) + x.done(2, false));
         gone("STEPS taken back", x -> x.undo() + x.undo());
         gone("PLAYED by a TEXT", x -> x.played(0));
     }

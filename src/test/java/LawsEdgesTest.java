@@ -10,6 +10,8 @@ public final class LawsEdgesTest {
         bothSides();
         deepest();
         namesAtTheirEdges();
+        namesInHas();
+        namesInPushes();
         leastAndGreatest();
         without();
         hand();
@@ -233,6 +235,41 @@ public final class LawsEdgesTest {
         y.by(1);
         Due.is("P18 day is 999 in fades", y.hand(0, 0, 3), 39);
         Due.is("P18 day is 999 in drops", y.hand(0, 0, 4), 49);
+    }
+
+    private static void namesInHas() {
+        String[] asks = {"turn=7", "pride=9", "right=99", "wrong=99", "worth=99"};
+        // Of the last MAN: TURN 7 by all but wrong, TURN 6 by wrong.
+        int[] last = {128, 255, 128, 64, 128};
+        int[] first = {128, 0, 0, 0, 128};
+        for (int i = 0; i < asks.length; i++) {
+            UnlearnedHand x = new UnlearnedHand();
+            for (int turn = 0; turn < 8; turn++) {
+                x.turn(turn == 7 ? 99 : turn + 1);
+            }
+            for (int man = 0; man < 6; man++) {
+                x.man(man == 5 ? 9 : man);
+            }
+            x.teach(5, 7, 99);
+            x.mislead(5, 6, 99);
+            Due.text(x, "has " + asks[i] + ";");
+            x.by(0);
+            Due.is("P18 a NAME in has, of the last MAN: " + asks[i], x.of(5, 1), last[i]);
+            Due.is("P18 a NAME in has, of the first MAN: " + asks[i], x.of(0, 1), first[i]);
+        }
+    }
+
+    private static void namesInPushes() {
+        String[] sums = {"turn", "pride", "right/9", "wrong", "worth", "much"};
+        int[] due = {2, 4, 9, 30, 7, 20};
+        for (int i = 0; i < sums.length; i++) {
+            UnlearnedHand x = Made.ruled("pushes " + sums[i] + ";");
+            x.by(-1);
+            x.mislead(0, 2, 10);
+            x.teach(0, 2, 81);
+            x.by(0);
+            Due.is("P18 a NAME in pushes: " + sums[i], x.mislead(0, 2, 20), 81 - due[i]);
+        }
     }
 
     private static void law(String text, int what, int due) {

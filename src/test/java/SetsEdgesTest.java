@@ -295,6 +295,8 @@ public final class SetsEdgesTest {
             Due.is("P34 the last leads to none", x.back(2), way == 0 ? 128 : 1);
             Due.is("P34 from the midst", x.back(4), way == 0 ? 240 : 31);
         }
+        Edge.taken("P34 by LEADS that are told since", Made::lived, z -> z.leads(2, 0) ? 1 : 0, 1, z -> z.back(1), 7);
+        Edge.taken("P34 by TURNS that are told since", Made::lived, z -> z.turn(9) + (z.leads(2, 3) ? 1 : 0), 4, z -> z.back(1), 14);
         UnlearnedHand y = led(8, 0, 7, 7, 1, 1, 6, 6, 2, 2, 5, 5, 3, 3, 4, 4, 0);
         y.smell(8);
         Due.is("P34 in a ring, to and fro", y.back(1), 255);

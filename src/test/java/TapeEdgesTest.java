@@ -118,6 +118,7 @@ public final class TapeEdgesTest {
     private static void theTapeBehind() {
         Edge.taken("P18 the tape is empty behind a FAULT too", Made::fresh, x -> Due.text(x, "fades"), -1, x -> x.about(10), 0);
         UnlearnedHand x = Made.turnsAndMen(1, 1);
+        x.image();
         Due.text(x, "fades 7; drops 7; pushes 7; has 1=1;");
         Due.is("P18 nothing of what was on it is read again", Due.text(x, "drops 3;"), 1);
         x.by(1);
@@ -132,8 +133,16 @@ public final class TapeEdgesTest {
         Due.is("P18 no clause of what had a FAULT", x.played(2), -1);
         x.teach(0, 0, 40);
         Due.is("P18 no law of what had a FAULT: pushes", x.mislead(0, 0, 2), 39);
-        Due.is("P18 while a TEXT rules, a FAULT", Due.text(x, "fades 9; drops 9; ?"), -1);
+        Due.is("P18 deeds ahead of a FAULT", Due.text(x, "drops 2; teach 0 in 0 by 9; drink 0; night 3; ?"), -1);
+        Due.is("P18 a shorter TEXT behind it", Due.text(x, "drops 2;"), 3);
+        Due.is("P21 no clause of what had a FAULT: all is done", x.played(3), -1);
+        Due.is("P21 no clause of what had a FAULT: no STEP", x.about(7), 2);
+        x.again();
+        Due.text(x, "fades 9; drops 4;");
+        x.by(0);
+        Due.is("P18 while a TEXT rules, a FAULT", Due.text(x, "fades 7; drops 7; ?"), -1);
         Due.is("P20 it rules yet", x.hand(0, 0, 4), 4);
+        Due.is("P20 it rules yet", x.hand(0, 0, 3), 9);
     }
 
     private static void longest() {
@@ -143,6 +152,13 @@ public final class TapeEdgesTest {
         Due.is("P18 up to 300 bytes", Due.text(x, most), 0);
         x.by(0);
         Due.is("P18 all is read", x.hand(0, 0, 3), 75);
+        UnlearnedHand y = Made.turnsAndMen(1, 1);
+        for (int i = 0; i < 3; i++) {
+            Due.is("P18 a FAULT at the end of 300 bytes", Due.text(y, most.substring(0, 299) + "?"), -1);
+        }
+        Due.is("P18 up to 300 bytes, behind FAULTS", Due.text(y, most), 0);
+        y.by(0);
+        Due.is("P18 all is read, behind FAULTS", y.hand(0, 0, 3), 75);
         Edge.fault("P19 of the end at the length: 300", "fades 1;" + " ".repeat(285) + "fades 1", 4, 293);
         Edge.fault("P19 of the end at the length: 300", "drops 1;" + " ".repeat(285) + "fades 1", 1, 300);
         Edge.fault("P19 at its last byte", "drops 1;" + " ".repeat(291) + "?", 1, 299);

@@ -179,6 +179,26 @@ public final class TellingEdgesTest {
         Due.is("P4 TIED: at first none", x.of(2, 3), -1);
         Due.is("P4 FREE: at first not", x.of(2, 4), 0);
         Due.is("P4 no STEP", x.about(7), Made.lived().about(7));
+        toldBehindNights();
+    }
+
+    /** Nights that teach, and a trial, ahead of all that is told then. */
+    private static void toldBehindNights() {
+        UnlearnedHand x = Made.ruled("fades -9;");
+        x.night(29);
+        x.winters(2, 1);
+        x.foretold(60, 1);
+        x.wrongs(0, 4, 9, 0, -1);
+        Due.is("a trial has been", x.about(3), 30);
+        int man = x.man(1);
+        int turn = x.turn(1);
+        for (int what = 0; what < 3; what++) {
+            Due.is("P4 a MAN told behind NIGHTS that teach: at first 0: " + what, x.hand(man, 0, what), 0);
+            Due.is("P2 a TURN told behind NIGHTS that teach: at first 0: " + what, x.hand(0, turn, what), 0);
+            Due.is("P4 both told behind NIGHTS that teach: at first 0: " + what, x.hand(man, turn, what), 0);
+        }
+        Due.is("P4 a MAN told behind a trial: at first not FREE", x.of(man, 4), 0);
+        Due.is("P4 the others were TRIED, and had too many", x.of(0, 4) + x.of(1, 4), 0);
     }
 
     private static void setsOfSmells() {
@@ -193,6 +213,7 @@ public final class TellingEdgesTest {
         Edge.taken("P5 one TURN", Made::allTurns, x -> x.smell(128), 0, x -> x.back(1), 128);
         Edge.taken("P5 all TURNS", Made::allTurns, x -> x.smell(255), 0, x -> x.back(1), 255);
         Edge.taken("P5 a set like another's", Made::lived, x -> x.smell(2), 2, x -> x.back(4), 6);
+        Edge.taken("P5 a TURN that is told by now", Made::lived, x -> x.turn(1) + x.smell(8), 5, x -> x.back(4), 8);
         Edge.taken("P5 no STEP", Made::plain, x -> x.smell(1), 2, x -> x.about(7), 0);
     }
 
