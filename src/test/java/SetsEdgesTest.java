@@ -50,6 +50,18 @@ public final class SetsEdgesTest {
         Edge.taken("P30 NONE: none any more, done wrong", Made::allDone, y -> y.done(-1, false), 0, y -> y.sets(false, -1), 8);
         Edge.taken("P30 then one more", Made::allDone, y -> y.done(-1, true) + y.done(2, true), 1, y -> y.sets(false, -1), 4);
         Edge.taken("P30 what was right may be wrong then", Made::allDone, y -> y.done(-1, true) + y.done(0, false), 1, y -> y.sets(false, 1), 2);
+        for (int first = 0; first < 2; first++) {
+            UnlearnedHand z = Made.turnsAndMen(8, 0);
+            for (int i = 0; i < 8; i++) {
+                z.done(i, first == 1);
+            }
+            Due.is("P30 none any more", z.done(-1, true), 0);
+            for (int i = 0; i < 8; i++) {
+                Due.is("P30 each anew, the other way round", z.done(i, first == 0), i + 1);
+                Due.is("P31 by the new ones alone", z.sets(false, -1), 128 >> i);
+                Due.is("P31 by the new ones alone: the first", z.sets(false, 0), first == 0 ? (2 << i) - 1 : 0);
+            }
+        }
         Edge.taken("P30 the last TURN", Made::allTurns, y -> y.done(7, true), 1, y -> y.sets(false, 0), 128);
         Edge.taken("P30 no STEP", Made::plain, y -> y.done(0, true), 1, y -> y.about(7), 0);
     }
